@@ -1168,21 +1168,21 @@ public final class RailsGrowWider {
 
         private void operate(int operation) {
             int last = pop();
-            switch (operation) {
-                case NEGATIVE: push(-last); break;
-                case ODD: push(last & 1); break;
-                case TOP: push(last >= 0 && last < TRACKS ? names[BROAD + 1 + last] : 0); break;
-                case NOT: push(1 - last); break;
-                case IF: choose(last); break;
-                default: push(operated(operation, pop(), last)); break;
+            if (operation == NEGATIVE) {
+                push(-last);
+            } else if (operation == ODD) {
+                push(last & 1);
+            } else if (operation == TOP) {
+                push(last >= 0 && last < TRACKS ? names[BROAD + 1 + last] : 0);
+            } else if (operation == NOT) {
+                push(1 - last);
+            } else if (operation == IF) {
+                // No SUM changes anything, so that both may be weighed and one be taken.
+                int then = pop();
+                push(pop() != 0 ? then : last);
+            } else {
+                push(operated(operation, pop(), last));
             }
-        }
-
-        /** No SUM changes anything, so that both may be weighed and one be taken. */
-        private void choose(int otherwise) {
-            int then = pop();
-            int either = pop();
-            push(either != 0 ? then : otherwise);
         }
 
         private static long operated(int operation, int a, int b) {
