@@ -119,9 +119,9 @@ public final class RailsGrowWider {
     private final Yard spare;
 
     public RailsGrowWider() {
-        station = new Station();
+        works = new Works();
+        station = works.station;
         image = new Station();
-        works = new Works(station);
         reader = new Reader();
         shunter = new Shunter();
         orders = new Orders();
@@ -522,11 +522,12 @@ public final class RailsGrowWider {
         for (int moment = 0; moment < moments; moment++) {
             rowsOfMoves *= MOVE_CODES;
         }
+        int start = Shunter.codeOf(image.yard);
         int pairs = station.pairsThatMay();
         int ways = 0;
         // Going upwards, the first row that fits is the lowest.
         for (int row = 0; row < rowsOfMoves; row++) {
-            if (fitsAllSeen(row, rowsOfMoves, moments, pairs)) {
+            if (fitsAllSeen(row, rowsOfMoves, start, pairs)) {
                 if (first) {
                     return row;
                 }
@@ -544,22 +545,21 @@ public final class RailsGrowWider {
         return last;
     }
 
-    private boolean fitsAllSeen(int row, int rowsOfMoves, int moments, int pairs) {
+    private boolean fitsAllSeen(int row, int rowsOfMoves, int start, int pairs) {
         int cars = image.yard.countCars();
-        int code = Shunter.codeOf(image.yard);
-        int digit = rowsOfMoves;
-        for (int moment = 0; moment < moments; moment++) {
+        int code = start;
+        int moment = 0;
+        for (int digit = rowsOfMoves / MOVE_CODES; digit > 0; digit /= MOVE_CODES) {
             if (!fitsSeen(moment, code, cars)) {
                 return false;
             }
-            digit /= MOVE_CODES;
-            int move = digit > 0 ? row / digit % MOVE_CODES : 0;
-            code = shunter.codeBehind(code, cars, move, pairs);
+            code = shunter.codeBehind(code, cars, row / digit % MOVE_CODES, pairs);
             if (code == NONE) {
                 return false;
             }
+            moment++;
         }
-        return fitsSeen(moments, code, cars);
+        return fitsSeen(moment, code, cars);
     }
 
     private boolean fitsSeen(int moment, int code, int cars) {
@@ -784,8 +784,8 @@ public final class RailsGrowWider {
         }
 
         int uppermost(int track) {
-            int many = countOn(track);
-            return many > 0 ? carAt(track, many - 1) : NONE;
+            int many = cells[MANY_FROM + track];
+            return many > 0 ? cells[STAND_FROM + MOST_CARS * track + many - 1] : NONE;
         }
 
         int carsOn(int track) {
@@ -1149,7 +1149,8 @@ public final class RailsGrowWider {
 
         private void push(long value) {
             if (height < pile.length) {
-                pile[height] = (int) Math.max(-GREATEST, Math.min(GREATEST, value));
+                long atMost = value > GREATEST ? GREATEST : value;
+                pile[height] = (int) (atMost < -GREATEST ? -GREATEST : atMost);
                 height++;
             }
         }
@@ -1206,12 +1207,8 @@ public final class RailsGrowWider {
 
     /** What is done at the station: MOVED, CHANGED, LENT, HOURS, PLAYED, YEARS. */
     private static final class Works {
-        private final Station station;
+        final Station station = new Station();
         private final Scale scale = new Scale();
-
-        Works(Station station) {
-            this.station = station;
-        }
 
         int movesSays(int car, int from, int to) {
             Text text = station.rulingText();
@@ -1410,7 +1407,7 @@ public final class RailsGrowWider {
         private void splitTape() {
             int count = 0;
             int behind;
-            for (int first = 0; first < length; first = behind) {
+            for (int first = 0; first < length && count < MOST_BYTES; first = behind) {
                 behind = first + 1;
                 if (tape[first] == ' ' || tape[first] == '\n') {
                     continue;
@@ -1506,7 +1503,7 @@ public final class RailsGrowWider {
         }
 
         private void nextToken() {
-            if (fault == 0 && token != TAPE_END) {
+            if (fault == 0 && token != TAPE_END && at + 1 < tokens.length) {
                 at++;
                 token = tokens[at];
             }

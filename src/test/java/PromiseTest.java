@@ -146,6 +146,7 @@ public final class PromiseTest {
             due("times of others", x.times(bad[0], bad[1], bad[2]), false);
         }
         due("crane", x.crane(true), 4);
+        due("times(0, 1, 1)", x.times(0, 1, 1), true);
         due("times(2, 20, 20)", x.times(2, 20, 20), true);
         due("crane", x.crane(true), 42);
         due("times(2, 20, 1)", x.times(2, 20, 1), true);
@@ -228,6 +229,20 @@ public final class PromiseTest {
         faulty("move 1 to 1;", 0, NONE);
         faulty("lend 1 to 1;", 1, 7);
         faulty("hour 0;", 2, 5);
+        faulty("hour 1;", 0, NONE);
+        faulty("hour 61;", 2, 5);
+        faulty("car 4 load 1;", 2, 4);
+        faulty("car 0 load 0;", 2, 11);
+        faulty("car 0 load 10;", 2, 11);
+        faulty("forbid 3 by 0;", 0, NONE);
+        faulty("forbid 4 by 0;", 2, 7);
+        faulty("forbid 0 by 4;", 2, 12);
+        faulty("move 0 to 2;", 0, NONE);
+        faulty("move 3 to 0;", 2, 5);
+        faulty("move 0 to 3;", 2, 10);
+        faulty("lend 0 of 0;", 2, 5);
+        faulty("lend 10 of 0;", 2, 5);
+        faulty("lend 1 of 2;", 2, 10);
         faulty("hour;", 1, 4);
         faulty("Change;", 1, 0);
         faulty("changed;", 1, 0);
@@ -257,6 +272,11 @@ public final class PromiseTest {
         faulty("moves if 1 <= 2 and 3 >= 4 or not 5 # 6 then 3 else 4 end;", 0, NONE);
         faulty("moves if 1 = 2 or then 3 else 4 end;", 1, 18);
         faulty("moves if not then 3 else 4 end;", 1, 13);
+        faulty("moves if 1 then 2 else 3 end;", 1, 11);
+        faulty("moves if 1;", 1, 10);
+        faulty("moves if " + "not 1=1 and ".repeat(12) + "1=1 then 2 else 3 end;", 0, NONE);
+        faulty("(".repeat(300), 1, 0);
+        faulty("moves " + "1+".repeat(146) + "1;", 0, NONE);
         faulty("moves broad;", 5, 6);
         faulty("changes to;", 5, 8);
         faulty("changes hour+number+load+kind+wide+worn+narrow+broad;", 0, NONE);
@@ -325,6 +345,9 @@ public final class PromiseTest {
         due("not of one ASK", moves("if not 1=2 and 1=1 then 1 else 2 end"), 1);
         due("not of one ASK", moves("if not 1=1 or 1=1 then 1 else 2 end"), 1);
         due("not not", moves("if not not 1=1 then 1 else 2 end"), 1);
+        due("and", moves("if 1=2 and 1=1 then 1 else 2 end+if 1=1 and 1=2 then 10 else 20 end"), 22);
+        due("or", moves("if 1=2 or 1=1 then 1 else 2 end+if 1=2 or 1=2 then 10 else 20 end"), 21);
+        due("not", moves("if not 1=1 then 1 else 2 end+if not 1=2 then 10 else 20 end"), 12);
         due("an if asked", moves("if if 1=1 then 2 else 3 end=2 then 7 else 8 end*2"), 14);
     }
 
@@ -552,9 +575,15 @@ public final class PromiseTest {
         x.undo();
         x.undo();
         due("is(0)", x.is(0), 9998);
+        read(x, "hour 1;");
+        due("all pass", x.played(0), NONE);
+        due("is(0)", x.is(0), 9999);
+        due("none can pass", x.played(0), 0);
+        x.undo();
+        due("is(0)", x.is(0), 9998);
         read(x, "lend 1 of 0;hour 2;change;");
         x.lend(0, -x.is(2) == 0 ? 1 : -x.is(2));
-        due("those that can pass do", x.played(0), 1);
+        due("those that can pass do", x.played(1), 1);
         due("is(0)", x.is(0), 9999);
     }
 
@@ -785,6 +814,16 @@ public final class PromiseTest {
         x.lend(1, 3);
         x.hour(1);
         due("law(1, 1): 40 + 1 + 2 * 3 + 1", x.law(1, 1), 48);
+        // each HOUR wears one: 1, 0, 2
+        x.hour(2);
+        x.change();
+        x.hour(1);
+        read(x, "moves wide*50+worn*10+number;changes wide*50+worn*10+number;");
+        x.by(1);
+        due("narrow feet", x.law(0, 1), 10 * x.of(0, 5));
+        due("worn", x.of(0, 5) > 0, true);
+        due("wide feet", x.law(1, 2), 50 + 10 * x.of(1, 5) + 1);
+        due("wide feet", x.law(1, 1), 50 + 10 * x.of(1, 5) + 1);
         for (int[] bad : new int[][] {{2, 0}, {2, 2}, {-1, 0}, {3, 0}, {0, -1}, {0, 3}, {MOST, MOST}, {LEAST, 0}}) {
             due("law(" + bad[0] + ", " + bad[1] + ")", x.law(bad[0], bad[1]), -100);
         }
@@ -844,6 +883,8 @@ public final class PromiseTest {
         due("the latest 30", y.book(NONE, 0), 30);
         due("the eldest", y.book(0, 3), 1);
         due("the latest", y.book(29, 2), 1);
+        due("the one ahead", y.book(28, 3), 1);
+        due("and the one ahead of it", y.book(27, 3), 2);
         due("ledger", y.ledger(1), 1);
     }
 
@@ -924,7 +965,12 @@ public final class PromiseTest {
         // two that may not stand beside one another, the upper one off and never on again
         RailsGrowWider y = new RailsGrowWider();
         y.car(0, 1);
+        y.forbid(0, 0, true);
+        due("one alone", y.reach(), 3);
         y.car(0, 1);
+        due("as now, and 6 on two TRACKS", y.reach(), 7);
+        y.forbid(0, 0, false);
+        due("all", y.reach(), 12);
         y.forbid(0, 0, true);
         due("as now, and 6 on two TRACKS", y.reach(), 7);
         y.move(0, 1);
@@ -1318,6 +1364,9 @@ public final class PromiseTest {
     private static void heaviest() {
         RailsGrowWider x = new RailsGrowWider();
         due("none", x.heaviest(), NONE);
+        x.car(0, 1);
+        due("above 0", x.heaviest(), 0);
+        x.back();
         x.car(0, 4);
         x.car(0, 5);
         due("heaviest", x.heaviest(), 0);
@@ -1410,10 +1459,13 @@ public final class PromiseTest {
         x.lend(0, 2);
         x.want(100);
         x.owe(3, 4, 5);
+        x.trip(NONE, 0, 0);
         x.trip(5, 6, 7);
-        x.seen(1, 1, 1);
+        x.seen(NONE, 0, 0);
+        x.seen(0, 1, 1);
         x.late(1, 9);
-        x.said(1, 1);
+        x.said(NONE, 0);
+        x.said(1, 9);
     }
 
     private static void same(RailsGrowWider x, RailsGrowWider y) {
@@ -1465,6 +1517,15 @@ public final class PromiseTest {
         due("the STEPS are so again", x.undo(), 7);
         due("undo", y.undo(), 7);
         same(x, y);
+        // STEPS in a ring that has turned
+        RailsGrowWider turned = new RailsGrowWider();
+        turned.car(0, 1);
+        turned.hour(37);
+        turned.image();
+        turned.hour(11);
+        turned.back();
+        due("undo", turned.undo(), 29);
+        due("is(0)", turned.is(0), 36);
         // the tape and the latest FAULT are no part of it
         RailsGrowWider z = new RailsGrowWider();
         z.feed(0, 0, 0, 0, 0);
