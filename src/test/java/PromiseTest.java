@@ -209,6 +209,12 @@ public final class PromiseTest {
         due("the tape stays", x.about(7), 8);
         due("it isn't read", x.fault(0), 0);
         due("about(1)", x.about(1), 4);
+        RailsGrowWider y = three();
+        for (int k = 0; k < 4; k++) {
+            due("a long one", read(y, "moves " + "1+".repeat(50 + k) + "1;"), k);
+            due("by", y.by(k), true);
+            due("law", y.law(0, 1), 51 + k);
+        }
         grammar();
         meaning();
     }
@@ -423,6 +429,33 @@ public final class PromiseTest {
         due("book(5, 2)", x.book(5, 2), 0);
         due("book(5, 3)", x.book(5, 3), 1);
         due("about(3)", x.about(3), 6);
+        allFive();
+    }
+
+    private static void allFive() {
+        RailsGrowWider x = new RailsGrowWider();
+        for (int k = 0; k < 5; k++) {
+            x.car(0, 1 + k);
+        }
+        x.lend(1, 8);
+        for (int k = 4; k >= 0; k--) {
+            due("move", x.move(0, 1), k);
+            due("change", x.change(), k);
+            due("move", x.move(1, 2), k);
+        }
+        for (int k = 0; k < 5; k++) {
+            due("track(2, " + k + ")", x.track(2, k), 4 - k);
+            due("of(" + k + ", 3)", x.of(k, 3), 4 - k);
+        }
+        due("is(4)", x.is(4), 31);
+        due("book", x.book(NONE, 0), 15);
+        due("book(0, 1)", x.book(0, 1), 4);
+        due("it is so", x.want(119) ? x.shunts(NONE) : NONE, 0);
+        for (int k = 14; k >= 0; k--) {
+            due("undo", x.undo(), k + 1);
+        }
+        due("track(0, 4)", x.track(0, 4), 4);
+        due("is(4)", x.is(4), 0);
     }
 
     private static void change() {
