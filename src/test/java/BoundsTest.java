@@ -1,5 +1,3 @@
-import java.util.List;
-
 /**
  * Each sentence of the document that names a bound: the last value that is taken and the first that
  * is not, what is empty and what is full, what comes round again, and what is refused.
@@ -11,10 +9,12 @@ public final class BoundsTest extends Checks {
     public static void main(String[] args) {
         TermsBounds.all();
         TextBounds.all();
-        List<String> left = Document.leftOver();
-        for (String words : left) {
-            System.out.println("not quoted: " + words);
+        AnswerBounds.all();
+        YearsBounds.all();
+        PromiseBounds.all();
+        for (String words : Document.leftOver()) {
+            complain("the document says, and no test of bounds quotes: " + words);
         }
-        System.exit(end());
+        System.exit(exitCode());
     }
 }

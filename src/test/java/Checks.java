@@ -46,7 +46,7 @@ abstract class Checks {
     }
 
     /** The exit code of the test. */
-    static int end() {
+    static int exitCode() {
         System.out.println(asked + " answers, " + wrong + " not as due");
         return wrong == 0 ? 0 : 1;
     }

@@ -20,15 +20,15 @@ final class Whole extends Checks {
     static List<String> yardOf(RailsGrowWider x) {
         Whole whole = new Whole(x);
         whole.noteYard();
-        whole.noteBook();
+        whole.noteBook(MOST);
         return whole.answers;
     }
 
-    /** All that is, some 450 calls; the station is used up by it. */
+    /** All that is, by some 350 calls; the station is used up by it. */
     static List<String> usedUp(RailsGrowWider x) {
         Whole whole = new Whole(x);
         whole.noteYard();
-        whole.noteBook();
+        whole.noteBook(3);
         whole.noteWhatFollows();
         whole.noteAccounts();
         whole.noteTexts();
@@ -57,11 +57,12 @@ final class Whole extends Checks {
         }
     }
 
-    private void noteBook() {
+    /** So many of the eldest and of the latest lines. */
+    private void noteBook(int many) {
         int lines = x.book(NONE, 0);
         note("book(-1, 0)", lines);
         for (int i = 0; i < lines; i++) {
-            for (int what = 0; what <= 3; what++) {
+            for (int what = 0; what <= 3 && (i < many || i >= lines - many); what++) {
                 note("book(" + i + ", " + what + ")", x.book(i, what));
             }
         }
