@@ -1407,7 +1407,7 @@ public final class RailsGrowWider {
         private void splitTape() {
             int count = 0;
             int behind;
-            for (int first = 0; first < length && count < MOST_BYTES; first = behind) {
+            for (int first = 0; first < length && count < MOST_BYTES; first = Math.max(first + 1, behind)) {
                 behind = first + 1;
                 if (tape[first] == ' ' || tape[first] == '\n') {
                     continue;

@@ -1,3 +1,5 @@
+import java.util.Arrays;
+
 /** Parts III and IV of the document: what is foretold, found, counted and settled. */
 final class AnswerBounds extends Checks {
     private AnswerBounds() {
@@ -102,7 +104,7 @@ final class AnswerBounds extends Checks {
     }
 
     private static int[] without(int[] row, int told) {
-        return java.util.Arrays.stream(row).filter(car -> car < told).toArray();
+        return Arrays.stream(row).filter(car -> car < told).toArray();
     }
 
     private static void rowIs(RailsGrowWider x, int order, int[] row) {
@@ -139,6 +141,20 @@ final class AnswerBounds extends Checks {
         z.want(2);
         shuntsAreNone("of those told alone 0 1 2 too", z);
         lawsAndFeetNoMatter();
+        fromNowOn();
+    }
+
+    private static void fromNowOn() {
+        RailsGrowWider x = ofLoads(1, 2);
+        shuntsAre("as now", x, 1, 2, 5);
+        x.move(0, 1);
+        shuntsAre("as now", x, 2, 5);
+        x.move(0, 1);
+        shuntsAre("as now", x, 5, 5);
+        x.undo();
+        shuntsAre("as it was", x, 2, 5);
+        x.back();
+        shuntsAre("no CARS again", x);
     }
 
     private static void lawsAndFeetNoMatter() {
@@ -180,8 +196,15 @@ final class AnswerBounds extends Checks {
             x.forbid(0, 0, false);
             x.car(0, 1);
         }
+        RailsGrowWider more = new RailsGrowWider();
+        more.forbid(0, 0, true);
+        for (int cars = 0; cars <= 5; cars++) {
+            due(cars + " CARS that may not", more.reach(), apart[cars]);
+            more.car(0, 1);
+        }
         RailsGrowWider two = ofLoads(1, 2);
         two.move(0, 1);
+        due("all that can be", two.reach(), 12);
         two.forbid(0, 0, true);
         due("from now on: never upon one another again", two.reach(), 6);
         RailsGrowWider one = ofLoads(1, 2, 3);
@@ -394,6 +417,8 @@ final class AnswerBounds extends Checks {
         groupsAre(new int[] {0, 1, 1, -1, -1, 0}, 1, 10, 20, 10, 20, 32);
         // {0, 2} and {0, 1, 5} are both of two GROUPS: 5 is lower than 35
         groupsAre(new int[] {3, 1, -3, 5, -2, -4}, 5, 58, 5, 58, 58, 58);
+        // {1, 2} alone is a lower set, but {0, 1, 3} comes first, as the lowest one of RAILWAY 0
+        groupsAre(new int[] {4, 1, -1, -5, 10, -9}, 11, 11, 52, 11, 52, 52);
         // {0, 1} is lower than {0, 5}
         groupsAre(new int[] {2, -2, 2, 3, -3, -2}, 3, 3, 36, 24, 24, 36);
         // {0, 1, 2} would be lower than {0, 3}, but {0, 3} {1, 4} {2, 5} are more
@@ -416,7 +441,7 @@ final class AnswerBounds extends Checks {
         due("both days aren't shared", x.stock(false), 5);
         due("the last day of one is the first of another", x.trip(3, 4, 1), 3);
         due("both days too", x.stock(false), 6);
-        due("on", x.stock(true), 2 + 1);
+        due("on the day that both share", x.stock(true), 3);
         for (int k = 4; k <= 8; k++) {
             due("trip", x.trip(30, 30, 1), k);
         }

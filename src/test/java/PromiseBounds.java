@@ -815,18 +815,25 @@ final class PromiseBounds extends Checks {
         refusedWhere(x -> { }, "without CARS", x -> x.crane(false), 0);
         refusedWhere(x -> x.car(0, 1), "one CAR", x -> x.crane(true), 2);
         refusedWhere(x -> x.car(0, 1), "one CAR", x -> x.crane(false), 0);
-        RailsGrowWider x = ofLoads(1, 2, 3, 4, 5);
-        int[][] times = {{16, 10}, {14, 14}, {7, 17}, {6, 8}, {3, 6}};
-        for (int car = 0; car <= 4; car++) {
-            x.times(car, times[car][0], times[car][1]);
-        }
-        due("the last ORDER", x.crane(false), 119);
-        // 4 3 2 1 0: lifted at 3, 9, 16, 30, 46; rolled at 9, 17, 34, 48, 58; all others take longer
-        due("the time", x.crane(true), 58);
+        // each alone is the fastest of all 120: 0 1 2 4 3, then 4 3 2 0 1, then 4 3 2 1 0
+        craneIs(new int[] {1, 4, 13, 5, 14}, new int[] {3, 15, 13, 1, 9}, 1, 43);
+        craneIs(new int[] {19, 20, 5, 4, 3}, new int[] {20, 6, 18, 11, 4}, 118, 62);
+        // lifted at 3, 9, 16, 30, 46; rolled at 9, 17, 34, 48, 58
+        RailsGrowWider x = craneIs(new int[] {16, 14, 7, 6, 3}, new int[] {10, 14, 17, 8, 6}, 119, 58);
         sentence("`int idle()`: IDLE.");
         due("58 less 55", x.idle(), 3);
         refusedWhere(y -> { }, "without CARS", RailsGrowWider::idle, 0);
         refusedWhere(y -> y.car(0, 1), "one CAR", RailsGrowWider::idle, 1);
+    }
+
+    private static RailsGrowWider craneIs(int[] lifts, int[] rolls, int order, int time) {
+        RailsGrowWider x = ofLoads(1, 2, 3, 4, 5);
+        for (int car = 0; car <= 4; car++) {
+            x.times(car, lifts[car], rolls[car]);
+        }
+        due("ORDER", x.crane(false), order);
+        due("time", x.crane(true), time);
+        return x;
     }
 
     // ---- promises 31 to 36

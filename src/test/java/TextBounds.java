@@ -49,6 +49,11 @@ final class TextBounds extends Checks {
         reads(" ".repeat(300));
         reads("");
         faulty(" ".repeat(299) + "?", 1, 299);
+        // as many TOKENS as bytes
+        faulty(";".repeat(300), 1, 0);
+        faulty(";".repeat(299), 1, 0);
+        faulty("changes" + "(".repeat(293), 3, 15);
+        faulty("changes 1" + "+1".repeat(145) + "+", 1, 300);
         faulty(padded("change", 300), 1, 300);
         faulty(" ".repeat(294) + "change", 1, 300);
         RailsGrowWider x = ofLoads(1);
@@ -166,6 +171,12 @@ final class TextBounds extends Checks {
         faulty("moves if 1!=" + behind, 1, 10);
         faulty("moves if 1<", 1, 11);
         faulty("moves if 1<=", 1, 12);
+        // the last bytes of the longest tape
+        for (String sign : new String[] {"<", ">", "=", "<=", ">="}) {
+            String whole = "moves if 1" + sign;
+            faulty(" ".repeat(300 - whole.length()) + whole, 1, 300);
+            faulty(" ".repeat(300 - sign.length()) + sign, 1, 300 - sign.length());
+        }
         reads("moves 1+2-3*4/5;changes(1);");
     }
 
@@ -448,14 +459,12 @@ final class TextBounds extends Checks {
         for (int[] sides : new int[][] {{1, 2}, {2, 2}, {3, 2}, {-2, 2}}) {
             int a = sides[0];
             int b = sides[1];
-            says("if " + a + "<" + b + both, a < b ? 5 : 6);
-            says("if " + a + "<=" + b + both, a <= b ? 5 : 6);
-            says("if " + a + ">" + b + both, a > b ? 5 : 6);
-            says("if " + a + ">=" + b + both, a >= b ? 5 : 6);
-            says("if " + a + "=" + b + both, a == b ? 5 : 6);
-            says("if " + a + "#" + b + both, a != b ? 5 : 6);
-            says("if not " + a + "<" + b + both, a < b ? 6 : 5);
-            says("if not not " + a + "<" + b + both, a < b ? 5 : 6);
+            asks(a + "<" + b, a < b);
+            asks(a + "<=" + b, a <= b);
+            asks(a + ">" + b, a > b);
+            asks(a + ">=" + b, a >= b);
+            asks(a + "=" + b, a == b);
+            asks(a + "#" + b, a != b);
         }
         cutShort("moves if not 1 < 2 then 4 else 5 end;", 8, 12, 14, 16, 18);
         faulty("moves if 1" + both + ";", 1, 11);
@@ -464,6 +473,22 @@ final class TextBounds extends Checks {
         faulty("moves not 1=1;", 1, 6);
         faulty("moves 1=1;", 1, 7);
         faulty("moves if 1=not 1=1" + both + ";", 1, 11);
+    }
+
+    /** By itself, turned round, and beside others. */
+    private static void asks(String ask, boolean so) {
+        String both = " then 5 else 6 end";
+        says("if " + ask + both, so ? 5 : 6);
+        says("if not " + ask + both, so ? 6 : 5);
+        says("if not not " + ask + both, so ? 5 : 6);
+        says("if " + ask + " and 1=1" + both, so ? 5 : 6);
+        says("if 1=1 and " + ask + both, so ? 5 : 6);
+        says("if " + ask + " and 1=2" + both, 6);
+        says("if " + ask + " or 1=2" + both, so ? 5 : 6);
+        says("if 1=2 or " + ask + both, so ? 5 : 6);
+        says("if " + ask + " or 1=1" + both, 5);
+        says("if not " + ask + " or " + ask + both, 5);
+        says("if not " + ask + " and " + ask + both, 6);
     }
 
     private static void names() {

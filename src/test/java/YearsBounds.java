@@ -265,6 +265,23 @@ final class YearsBounds extends Checks {
         kept.forbid(0, 1, false);
         kept.back();
         Whole.alike("full again", Whole.usedUp(kept), Whole.usedUp(other));
+        stepsThatCameRound();
+    }
+
+    /** More than 30 STEPS ahead of THE IMAGE and behind it, not as many. */
+    private static void stepsThatCameRound() {
+        RailsGrowWider x = new RailsGrowWider();
+        x.hour(37);
+        x.image();
+        x.hour(11);
+        due("back", x.back(), 37);
+        for (int k = 29; k >= 0; k--) {
+            due("undo", x.undo(), k);
+            due("HOUR", x.is(0), 7 + k);
+        }
+        due("none any more", x.undo(), NONE);
+        due("back", x.back(), 37);
+        due("undo", x.undo(), 29);
     }
 
     private static void none() {
