@@ -140,8 +140,32 @@ final class AnswerBounds extends Checks {
         due("0 2 1 can be", z.shunts(NONE) > 0, true);
         z.want(2);
         shuntsAreNone("of those told alone 0 1 2 too", z);
+        shuntsAre("CAR 4 on TRACK 0, 3 2 1 0 on the pit", Stations.turned(), 5, 5, 5, 5, 2);
         lawsAndFeetNoMatter();
         fromNowOn();
+        neverAgain();
+    }
+
+    /** Where they could be brought a moment ago, alike ones can't any more. */
+    private static void neverAgain() {
+        for (int cars = 2; cars <= 5; cars++) {
+            for (int order = 0; order <= 119; order += 7) {
+                for (int moves = 0; moves < cars; moves++) {
+                    RailsGrowWider x = ofLoads(1, 2, 3, 4, 5);
+                    x.back();
+                    for (int k = 0; k < cars; k++) {
+                        x.car(0, 1);
+                    }
+                    for (int k = 0; k < moves; k++) {
+                        x.move(0, 1);
+                    }
+                    x.want(order);
+                    due("now they can", x.shunts(NONE) > 0, true);
+                    x.forbid(0, 0, true);
+                    due("now they can't", x.shunts(NONE), -2);
+                }
+            }
+        }
     }
 
     private static void fromNowOn() {
@@ -202,6 +226,7 @@ final class AnswerBounds extends Checks {
             due(cars + " CARS that may not", more.reach(), apart[cars]);
             more.car(0, 1);
         }
+        due("all that can be", Stations.turned().reach(), 2520);
         RailsGrowWider two = ofLoads(1, 2);
         two.move(0, 1);
         due("all that can be", two.reach(), 12);
@@ -235,6 +260,8 @@ final class AnswerBounds extends Checks {
         y.forbid(1, 1, true);
         due("0 1 0 1 and 1 0 1 0", y.rows(0), 8);
         due("one CAR", y.rows(1), 1);
+        due("four on the pit", Stations.turned().rows(1), 24);
+        due("one on TRACK 0", Stations.turned().rows(0), 1);
     }
 
     private static void theLowest() {
@@ -257,6 +284,8 @@ final class AnswerBounds extends Checks {
         y.move(0, 1);
         lowestIs(y, 1, 1, 2);
         lowestIs(y, 0, 0);
+        lowestIs(Stations.turned(), 1, 0, 1, 2, 3);
+        lowestIs(Stations.turned(), 0, 4);
     }
 
     private static void lowestIs(RailsGrowWider x, int track, int... row) {
@@ -702,8 +731,12 @@ final class AnswerBounds extends Checks {
         due("like ones on 1 and 2", z.heaviest(), 1);
         z.car(0, 4);
         due("4, 5, 5", z.heaviest(), 1);
+        RailsGrowWider went = ofLoads(5, 9);
+        went.move(0, 1);
+        due("9 on 1: it is no more on 0", went.heaviest(), 1);
         RailsGrowWider all = ofLoads(9, 9, 9, 9, 9);
         due("45", all.heaviest(), 0);
+        due("10 on the pit, 5 on 0", Stations.turned().heaviest(), 1);
         RailsGrowWider wide = ofLoads(9);
         bringToWide(wide);
         due("9 on 2", wide.heaviest(), 2);
@@ -713,6 +746,8 @@ final class AnswerBounds extends Checks {
         sentence("MOST WORN: the CAR most WORN (above 0); of like ones the lowest; none.");
         RailsGrowWider x = new RailsGrowWider();
         due("no CARS", x.worn(), NONE);
+        due("five CARS, none WORN", ofLoads(1, 2, 3, 4, 5).worn(), NONE);
+        due("five CARS, none WORN", Stations.turned().worn(), NONE);
         x.hour(1);
         x.car(0, 1);
         x.car(0, 2);
@@ -764,6 +799,10 @@ final class AnswerBounds extends Checks {
         all.forbid(2, 2, true);
         all.forbid(3, 3, true);
         due("one pair on each of two TRACKS", all.amiss(), 2);
+        RailsGrowWider turned = Stations.turned();
+        due("none may not", turned.amiss(), 0);
+        turned.forbid(0, 0, true);
+        due("four on the pit, one on TRACK 0", turned.amiss(), 3);
     }
 
     private static void byTheBook() {

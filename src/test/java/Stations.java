@@ -100,6 +100,22 @@ final class Stations extends Checks {
         write(x, padded("hour 60;", 300));
     }
 
+    /** LOADS 1 .. 5 of KIND 0: CAR 4 alone on TRACK 0, on the pit 3 2 1 0, the last one uppermost. */
+    static RailsGrowWider turned() {
+        RailsGrowWider x = ofLoads(1, 2, 3, 4, 5);
+        bringToWide(x);
+        for (int k = 0; k < 4; k++) {
+            x.move(0, 1);
+        }
+        x.lend(0, 1);
+        x.move(2, 1);
+        x.change();
+        x.move(1, 0);
+        due("CAR 4 on TRACK 0", x.track(0, 0), 4);
+        due("CAR 0 on top of the pit", x.track(1, 3), 0);
+        return x;
+    }
+
     static void areFull(RailsGrowWider x) {
         int[] about = {5, 4, 3, 30, 8, 4, 8, 300};
         for (int what = 0; what <= 7; what++) {
