@@ -7,6 +7,7 @@ public final class BoundsTest extends Checks {
     }
 
     public static void main(String[] args) {
+        OpeningBounds.all();
         TermsBounds.all();
         TextBounds.all();
         AnswerBounds.all();

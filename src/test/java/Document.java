@@ -4,7 +4,10 @@ import java.nio.file.Path;
 import java.util.ArrayList;
 import java.util.List;
 
-/** The words of the document from its terms to its last promise, and which of them tests have quoted. */
+/**
+ * The words of the document from its first line to its last promise, and which of them tests have quoted;
+ * what is behind ("Not promised") says what is free.
+ */
 final class Document {
     private static final Path PLACE = Path.of("..", "shared", "DOC.md");
     private static final String WORDS = words();
@@ -15,15 +18,29 @@ final class Document {
 
     private static String words() {
         StringBuilder kept = new StringBuilder();
-        boolean within = false;
+        boolean within = true;
         for (String line : lines()) {
             if (line.startsWith("## ")) {
-                within = line.startsWith("## Terms") || line.startsWith("## Promise");
-            } else if (within && !line.startsWith("```")) {
+                within = !line.startsWith("## Not promised");
+            } else if (within && !line.startsWith("# ") && !line.startsWith("```")) {
                 kept.append(line).append(' ');
             }
         }
         return oneBlankEach(kept.toString());
+    }
+
+    /** The lines of the public face, from the class to its last method. */
+    static List<String> face() {
+        List<String> face = new ArrayList<>();
+        boolean within = false;
+        for (String line : lines()) {
+            if (line.startsWith("```")) {
+                within = line.equals("```java");
+            } else if (within && line.contains("public")) {
+                face.add(line.trim());
+            }
+        }
+        return face;
     }
 
     private static List<String> lines() {
